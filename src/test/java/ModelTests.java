@@ -23,6 +23,10 @@ public final class ModelTests {
     for (int seed = 0; seed < runs && wrong < 5; seed++) {
       new Run(seed).play();
     }
+    if (wrong == 0) {
+      everyBodyAboutACorner();
+      bodiesWithFaults();
+    }
     System.out.println(wrong == 0 ? "the class and the model agree" : wrong + " runs disagree");
     if (wrong != 0) System.exit(1);
   }
@@ -543,6 +547,32 @@ public final class ModelTests {
   private static final int[] QUARTERS = {0, 1, 9, 5, 0, 1, 9, 5, 1, 9, 2, -1};
   private static final int[] ODD = {-1, 1000, Integer.MIN_VALUE, Integer.MAX_VALUE, 4, 6, 16, 31, -31, -30, 30};
 
+  /** All 256 bodies within two times two times two places, in the midst of the layers. */
+  private static void everyBodyAboutACorner() {
+    for (int cells = 0; cells < 256; cells++) {
+      Run run = new Run(cells);
+      for (int z = 0; z < 2; z++) {
+        int row = cells >> 4 * z & 15;
+        run.call("layer", z + 1, (row & 3) << 5 | (row >> 2) << 9);
+      }
+      run.askAllOfTheBody();
+    }
+  }
+
+  /** Full boxes with some cubes taken out have hollows, edges and corners in all ways. */
+  private static void bodiesWithFaults() {
+    for (int seed = 0; seed < 1500; seed++) {
+      Run run = new Run(seed);
+      int gone = seed % 50;
+      long cells = -1;
+      for (int i = 0; i < gone; i++) cells &= ~(1L << run.random.nextInt(64));
+      for (int z = 0; z < 4; z++) run.call("layer", z, (int) (cells >> 16 * z));
+      run.call("well");
+      run.call("skin");
+      if (seed % 25 < 5) run.askAllOfTheBody();
+    }
+  }
+
   /** One object and one model, and a hand that knows what makes bodies well and sheets rich. */
   private static final class Run {
     final int seed;
@@ -597,6 +627,18 @@ public final class ModelTests {
         askSome(1 + random.nextInt(8));
         if (random.nextInt(3) == 0) call("shelve", near(6));
       }
+    }
+
+    void askAllOfTheBody() {
+      call("well");
+      call("skin");
+      for (int i = 0; i < model.squares.size(); i++) {
+        call("square", i, i % 4);
+        call("across", i, random.nextInt(4), 0);
+        call("across", i, random.nextInt(4), 1);
+        call("across", i, random.nextInt(4), 2);
+      }
+      call("count", 0);
     }
 
     void askSome(int many) {
