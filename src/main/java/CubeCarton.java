@@ -1198,6 +1198,10 @@ public final class CubeCarton {
             beside = new int[POSE];
             rims = new int[4 * Sheet.MOST];
             spots = 0;
+            // SPOT 0 lies so in each SHEET: its pose is never written again.
+            poses[FACE] = 4;
+            poses[RIGHT] = 0;
+            poses[UP] = 2;
         }
 
         /** Why it can't be folded: the number of Terms 3, or 0. */
@@ -1219,12 +1223,6 @@ public final class CubeCarton {
         }
 
         private void layAll(Sheet sheet, Links links) {
-            for (int axis = 0; axis < 3; axis++) {
-                poses[axis] = 0;
-            }
-            poses[FACE] = 4;
-            poses[RIGHT] = 0;
-            poses[UP] = 2;
             for (int i = 1; i < spots; i++) {
                 int spot = links.inOrder(i);
                 int from = links.reachedFrom(spot);
@@ -1497,7 +1495,8 @@ public final class CubeCarton {
             for (int spot = 0; spot < spots; spot++) {
                 for (int direction = 0; direction < 2; direction++) {
                     int other = links.next(spot, direction);
-                    if (other >= 0 && landing(skin, spot, direction, over) != 4 * squares[other] + turns[other]) {
+                    if (other >= 0
+                        && landing(skin, spot, direction, over) != 4 * squares[other] + turns[other]) {
                         return false;
                     }
                 }

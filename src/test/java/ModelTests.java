@@ -736,6 +736,19 @@ public final class ModelTests {
         call("turn", random.nextInt(2));
         askSome(4);
       }
+      if (creases > 0 && random.nextInt(2) == 0) joinMore();
+    }
+
+    /** Creases where two spots of a sheet lie side by side without one make rings. */
+    void joinMore() {
+      for (P p : model.sheet.list()) for (int d = 0; d < 2; d++) {
+        boolean beside = model.sheet.spots.contains(p.plus(FLAT_DIRECTIONS[d]));
+        if (!beside || model.sheet.creases.containsKey(Sheet.between(p, d)) || random.nextInt(3) > 0) continue;
+        call("crease", p.x(), p.y(), d, QUARTERS[random.nextInt(3)]);
+        call("wraps");
+        call("fold");
+        if (random.nextBoolean()) call("undo");
+      }
     }
 
     P anySpot() {

@@ -93,7 +93,7 @@ public final class PromiseTests {
 
   private static List<Integer> formOf(CubeCarton x) {
     List<Integer> all = new ArrayList<>();
-    for (int i = 0; x.form(i) != NONE; i++) all.add(x.form(i));
+    for (int i = 0, number = x.form(0); i < 300 && number != NONE; number = x.form(++i)) all.add(number);
     return all;
   }
 
@@ -243,6 +243,11 @@ public final class PromiseTests {
     due(5, "bits of layer 2: ones come and a one goes", bits(y, 2), 0x6001);
     due(5, "copy(0, 16, 2, 16, 0)", y.copy(0, 16, 2, 16, 0), 0);
     due(5, "bits of layer 2 stay", bits(y, 2), 0x6001);
+    y.layer(2, 0x0F0F);
+    due(5, "copy(0, 5, 2, 9, 4)", y.copy(0, 5, 2, 9, 4), 4);
+    due(5, "bits of layer 2, four in the midst", bits(y, 2), 0x0F0F);
+    due(5, "copy(0, 2, 2, 9, 4)", y.copy(0, 2, 2, 9, 4), 4);
+    due(5, "bits of layer 2, four in the midst", bits(y, 2), 0x190F);
     refused(5, y, "copy(-1, 0, 1, 0, 99)", c -> c.copy(-1, 0, 1, 0, 99), BAD);
     refused(5, y, "copy(1, 0, 4, 0, -1)", c -> c.copy(1, 0, 4, 0, -1), BAD);
     refused(5, y, "copy(0, 0, 1, 0, 17)", c -> c.copy(0, 0, 1, 0, 17), NOTHING);
@@ -544,6 +549,7 @@ public final class PromiseTests {
   private static final class Strip {
     final CubeCarton scout = new CubeCarton();
     final Map<Integer, Integer> turns = new HashMap<>();
+    final Map<Integer, List<Integer>> places = new HashMap<>();
     final Set<Integer> left = new HashSet<>();
     final int[] layers;
 
@@ -551,6 +557,7 @@ public final class PromiseTests {
       layers = upright ? new int[] {0x11, 0x77, 0x11, 0xFF} : new int[] {0xF171, 0xF171};
       build(scout);
       turns.put(0, 0);
+      places.put(0, List.of(0, 0));
     }
     void build(CubeCarton x) { for (int z = 0; z < layers.length; z++) x.layer(z, layers[z]); }
 
@@ -559,6 +566,8 @@ public final class PromiseTests {
       int side = direction - turns.get(square) & 3;
       int other = scout.across(square, side, 0), back = scout.across(square, side, 1);
       turns.put(other, direction + 2 - back & 3);
+      int[] dx = {1, 0, -1, 0}, dy = {0, 1, 0, -1};
+      places.put(other, List.of(places.get(square).get(0) + dx[direction], places.get(square).get(1) + dy[direction]));
       left.add(4 * square + side);
       left.add(4 * other + back);
       return other;
@@ -601,6 +610,15 @@ public final class PromiseTests {
       for (int i = 0; i < 58; i++) most = Math.max(most, sign * x.told(i, direction % 2));
       due(13, "the farthest in direction " + direction, most, 30);
       due(13, "closed()", x.closed(), 1);
+      // The body is its own mirror's, and has no other symmetry.
+      due(26, "wraps() of 58", x.wraps(), 2);
+      for (int square = 0; square < 58; square++) {
+        if (!within.places.get(square).equals(List.of(x.told(0, 0), x.told(0, 1)))) continue;
+        due(27, "way(0, 0) of 58", x.way(0, 0), square);
+        due(27, "way(0, 1) of 58", x.way(0, 1), within.turns.get(square));
+      }
+      due(27, "way(0, 2) of 58", x.way(0, 2), 0);
+      due(27, "way(1, 2) of 58", x.way(1, 2), 1);
       Strip beyond = new Strip(direction % 2 == 1);
       beyond.lay(direction, 12);
       CubeCarton y = beyond.cut();
@@ -636,6 +654,7 @@ public final class PromiseTests {
     refused(14, y, "spot(20, 20, 1) beside 60", c -> c.spot(20, 20, 1), FULL);
     refused(14, y, "spot(31, 20, 1) beside 60", c -> c.spot(31, 20, 1), BAD);
     due(14, "spot(9, 5, 1), one of the 60", y.spot(9, 5, 1), 1);
+    due(14, "spot(0, 0, 1), the first of the 60", y.spot(0, 0, 1), 1);
     due(14, "spot(20, 20, 0) beside 60", y.spot(20, 20, 0), 0);
     due(14, "spot(0, 0, 0)", y.spot(0, 0, 0), 1);
     due(14, "spot(20, 20, 1) beside 59", y.spot(20, 20, 1), 0);
@@ -764,6 +783,11 @@ public final class PromiseTests {
     due(19, "fold() of a ring that agrees", agree.fold(), 0);
     agree.crease(0, 0, 0, 9);
     due(19, "fold() of a ring with 1 and -1", agree.fold(), 2);
+    // The ring hangs on a spot below, so that another of its creases is the one to close it.
+    CubeCarton kite = sheet(new int[] {1, 0, 1, 0}, new int[] {1, 1, 1, 0}, new int[] {1, 1, 2, 0}, new int[] {1, 2, 2, 0}, new int[] {0, 1, 1, 1});
+    due(19, "fold() of a kite", kite.fold(), 2);
+    kite.crease(0, 1, 1, 0);
+    due(19, "fold() of a level kite", kite.fold(), 0);
     // Three squares about a corner and a fourth that comes back on the first's place.
     CubeCarton corner = sheet(new int[] {0, 0, 0, 1}, new int[] {1, 0, 1, 1}, new int[] {1, 1, 2, 1});
     due(19, "fold() of a row about a corner", corner.fold(), 3);
@@ -985,6 +1009,17 @@ public final class PromiseTests {
     due(26, "wraps() with a level ring", whole, 16);
     four.crease(0, 1, 0, 5);
     due(26, "wraps() without that ring", four.wraps(), whole);
+    // One crease more, where the squares are not across: no two lie on one, but it does not fit.
+    CubeCarton three = new CubeCarton();
+    three.layer(0, 0x13);
+    int[][] edges = {
+      {0, 2}, {1, 0}, {4, 2}, {4, 3}, {5, 0}, {5, 2}, {5, 3}, {6, 0}, {6, 2}, {9, 0}, {9, 3}, {10, 0}, {10, 1}, {10, 3}, {11, 0},
+    };
+    for (int[] e : edges) three.cut(e[0], e[1], 1);
+    due(26, "open() of three cubes", three.open(), 13);
+    due(26, "wraps() of three cubes", three.wraps(), 4);
+    due(26, "crease(1, -3, 1, 0)", three.crease(1, -3, 1, 0), 5);
+    due(26, "wraps() with a crease too many", three.wraps(), 0);
     CubeCarton none = new CubeCarton();
     none.box(1, 1, 1);
     due(26, "wraps() without spots", none.wraps(), 0);
