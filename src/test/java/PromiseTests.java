@@ -1009,20 +1009,26 @@ public final class PromiseTests {
     due(26, "wraps() with a level ring", whole, 16);
     four.crease(0, 1, 0, 5);
     due(26, "wraps() without that ring", four.wraps(), whole);
-    // One crease more, where the squares are not across: no two lie on one, but it does not fit.
-    CubeCarton three = new CubeCarton();
-    three.layer(0, 0x13);
-    int[][] edges = {
-      {0, 2}, {1, 0}, {4, 2}, {4, 3}, {5, 0}, {5, 2}, {5, 3}, {6, 0}, {6, 2}, {9, 0}, {9, 3}, {10, 0}, {10, 1}, {10, 3}, {11, 0},
-    };
-    for (int[] e : edges) three.cut(e[0], e[1], 1);
-    due(26, "open() of three cubes", three.open(), 13);
-    due(26, "wraps() of three cubes", three.wraps(), 4);
-    due(26, "crease(1, -3, 1, 0)", three.crease(1, -3, 1, 0), 5);
-    due(26, "wraps() with a crease too many", three.wraps(), 0);
+    creaseTooMany(0, 2, 0, new int[][] {
+      {1, 0}, {1, 2}, {2, 0}, {2, 1}, {3, 3}, {4, 1}, {4, 2}, {5, 2}, {5, 3}, {6, 0}, {6, 2}, {9, 0}, {9, 1}, {10, 0}, {11, 0},
+    });
+    creaseTooMany(0, 1, 1, new int[][] {
+      {0, 1}, {0, 2}, {1, 2}, {1, 3}, {3, 0}, {4, 0}, {4, 2}, {5, 0}, {5, 2}, {6, 2}, {9, 1}, {10, 0}, {10, 3}, {11, 0}, {11, 2},
+    });
     CubeCarton none = new CubeCarton();
     none.box(1, 1, 1);
     due(26, "wraps() without spots", none.wraps(), 0);
+  }
+
+  /** One crease more, where the squares are not across: no two lie on one, but it does not fit. */
+  private static void creaseTooMany(int x, int y, int direction, int[][] edges) {
+    CubeCarton three = new CubeCarton();
+    three.layer(0, 0x13);
+    for (int[] e : edges) three.cut(e[0], e[1], 1);
+    due(26, "open() of three cubes", three.open(), 13);
+    due(26, "wraps() of three cubes", three.wraps(), 4);
+    due(26, "crease(" + x + ", " + y + ", " + direction + ", 0)", three.crease(x, y, direction, 0), 5);
+    due(26, "wraps() with a crease too many", three.wraps(), 0);
   }
 
   private static void way() {
