@@ -8,11 +8,7 @@ import java.util.Set;
 import java.util.function.ToIntFunction;
 
 /** The promises one by one, each on objects of its own, with answers worked out by hand. */
-public final class PromiseTests {
-  private static final int NONE = -1, BAD = -3, NO = -4, FULL = -5, NOTHING = -11, INDEX = -13;
-  private static final int LEAST = Integer.MIN_VALUE, GREATEST = Integer.MAX_VALUE;
-  private static int wrong = 0;
-
+public final class PromiseTests extends Checks {
   public static void main(String[] args) {
     aNewObject();
     layer();
@@ -27,7 +23,6 @@ public final class PromiseTests {
     cut();
     cuts();
     open();
-    openBeyondReach();
     spot();
     crease();
     turn();
@@ -43,22 +38,7 @@ public final class PromiseTests {
     way();
     undo();
     count();
-    System.out.println(wrong == 0 ? "all promises hold" : wrong + " answers are not as due");
-    if (wrong != 0) System.exit(1);
-  }
-
-  private static void due(int promise, String call, int got, int want) {
-    if (got != want) {
-      wrong++;
-      System.out.println("promise " + promise + ": " + call + " answered " + got + ", due is " + want);
-    }
-  }
-
-  private static void due(int promise, String call, List<Integer> got, List<Integer> want) {
-    if (!got.equals(want)) {
-      wrong++;
-      System.out.println("promise " + promise + ": " + call + " answered " + got + ", due is " + want);
-    }
+    end("all promises hold");
   }
 
   /** What a refused call must leave as it is. */
@@ -79,8 +59,8 @@ public final class PromiseTests {
 
   /** The cubes of a layer, read off the skin; for bodies of which each cube can be seen. */
   private static int bits(CubeCarton x, int z) {
-    int bits = 0;
-    for (int i = 0; i < x.skin(); i++)
+    int bits = 0, squares = x.skin();
+    for (int i = 0; i < squares; i++)
       if (x.square(i, 2) == z) bits |= 1 << 4 * x.square(i, 1) + x.square(i, 0);
     return bits;
   }
@@ -118,8 +98,6 @@ public final class PromiseTests {
       x.crease(c[0], c[1], c[2], c[3]);
     }
   }
-
-  private static final int[][] CROSS = {{0, 0, 0, 1}, {1, 0, 0, 1}, {2, 0, 0, 1}, {1, 0, 1, 1}, {1, 0, 3, 1}};
 
   private static void aNewObject() {
     CubeCarton x = new CubeCarton();
@@ -243,25 +221,27 @@ public final class PromiseTests {
     due(5, "bits of layer 2: ones come and a one goes", bits(y, 2), 0x6001);
     due(5, "copy(0, 16, 2, 16, 0)", y.copy(0, 16, 2, 16, 0), 0);
     due(5, "bits of layer 2 stay", bits(y, 2), 0x6001);
-    y.layer(2, 0x0F0F);
-    due(5, "copy(0, 5, 2, 9, 4)", y.copy(0, 5, 2, 9, 4), 4);
-    due(5, "bits of layer 2, four in the midst", bits(y, 2), 0x0F0F);
-    due(5, "copy(0, 2, 2, 9, 4)", y.copy(0, 2, 2, 9, 4), 4);
-    due(5, "bits of layer 2, four in the midst", bits(y, 2), 0x190F);
-    refused(5, y, "copy(-1, 0, 1, 0, 99)", c -> c.copy(-1, 0, 1, 0, 99), BAD);
-    refused(5, y, "copy(1, 0, 4, 0, -1)", c -> c.copy(1, 0, 4, 0, -1), BAD);
-    refused(5, y, "copy(0, 0, 1, 0, 17)", c -> c.copy(0, 0, 1, 0, 17), NOTHING);
-    refused(5, y, "copy(1, 0, 0, 0, 17)", c -> c.copy(1, 0, 0, 0, 17), NOTHING);
-    refused(5, y, "copy(0, 0, 2, 0, 17)", c -> c.copy(0, 0, 2, 0, 17), INDEX);
-    refused(5, y, "copy(0, 0, 2, 0, -1)", c -> c.copy(0, 0, 2, 0, -1), INDEX);
-    refused(5, y, "copy(0, -1, 2, 0, 1)", c -> c.copy(0, -1, 2, 0, 1), INDEX);
-    refused(5, y, "copy(0, 0, 2, -1, 1)", c -> c.copy(0, 0, 2, -1, 1), INDEX);
-    refused(5, y, "copy(0, 15, 2, 0, 2)", c -> c.copy(0, 15, 2, 0, 2), INDEX);
-    refused(5, y, "copy(0, 0, 2, 15, 2)", c -> c.copy(0, 0, 2, 15, 2), INDEX);
-    refused(5, y, "copy(0, 1, 2, 0, GREATEST)", c -> c.copy(0, 1, 2, 0, GREATEST), INDEX);
-    refused(5, y, "copy(0, GREATEST, 2, 0, 1)", c -> c.copy(0, GREATEST, 2, 0, 1), INDEX);
-    refused(5, y, "copy(0, 0, 2, GREATEST, GREATEST)", c -> c.copy(0, 0, 2, GREATEST, GREATEST), INDEX);
-    refused(5, y, "copy(0, 0, 2, 0, LEAST)", c -> c.copy(0, 0, 2, 0, LEAST), INDEX);
+    CubeCarton r = new CubeCarton();
+    r.layer(0, 0x00F0);
+    r.layer(2, 0x0F0F);
+    due(5, "copy(0, 5, 2, 9, 4)", r.copy(0, 5, 2, 9, 4), 4);
+    due(5, "bits of layer 2, four in the midst", bits(r, 2), 0x0F0F);
+    due(5, "copy(0, 2, 2, 9, 4)", r.copy(0, 2, 2, 9, 4), 4);
+    due(5, "bits of layer 2, four in the midst", bits(r, 2), 0x190F);
+    refused(5, r, "copy(-1, 0, 1, 0, 99)", c -> c.copy(-1, 0, 1, 0, 99), BAD);
+    refused(5, r, "copy(1, 0, 4, 0, -1)", c -> c.copy(1, 0, 4, 0, -1), BAD);
+    refused(5, r, "copy(0, 0, 1, 0, 17)", c -> c.copy(0, 0, 1, 0, 17), NOTHING);
+    refused(5, r, "copy(1, 0, 0, 0, 17)", c -> c.copy(1, 0, 0, 0, 17), NOTHING);
+    refused(5, r, "copy(0, 0, 2, 0, 17)", c -> c.copy(0, 0, 2, 0, 17), INDEX);
+    refused(5, r, "copy(0, 0, 2, 0, -1)", c -> c.copy(0, 0, 2, 0, -1), INDEX);
+    refused(5, r, "copy(0, -1, 2, 0, 1)", c -> c.copy(0, -1, 2, 0, 1), INDEX);
+    refused(5, r, "copy(0, 0, 2, -1, 1)", c -> c.copy(0, 0, 2, -1, 1), INDEX);
+    refused(5, r, "copy(0, 15, 2, 0, 2)", c -> c.copy(0, 15, 2, 0, 2), INDEX);
+    refused(5, r, "copy(0, 0, 2, 15, 2)", c -> c.copy(0, 0, 2, 15, 2), INDEX);
+    refused(5, r, "copy(0, 1, 2, 0, GREATEST)", c -> c.copy(0, 1, 2, 0, GREATEST), INDEX);
+    refused(5, r, "copy(0, GREATEST, 2, 0, 1)", c -> c.copy(0, GREATEST, 2, 0, 1), INDEX);
+    refused(5, r, "copy(0, 0, 2, GREATEST, GREATEST)", c -> c.copy(0, 0, 2, GREATEST, GREATEST), INDEX);
+    refused(5, r, "copy(0, 0, 2, 0, LEAST)", c -> c.copy(0, 0, 2, 0, LEAST), INDEX);
     CubeCarton w = new CubeCarton();
     w.box(1, 1, 1);
     w.cut(0, 0, 1);
@@ -545,91 +525,6 @@ public final class PromiseTests {
     refused(13, y, "open(), two on one and a ring", CubeCarton::open, -22);
   }
 
-  /** A body whose two belts of 20 squares can be laid out as one long strip. */
-  private static final class Strip {
-    final CubeCarton scout = new CubeCarton();
-    final Map<Integer, Integer> turns = new HashMap<>();
-    final Map<Integer, List<Integer>> places = new HashMap<>();
-    final Set<Integer> left = new HashSet<>();
-    final int[] layers;
-
-    Strip(boolean upright) {
-      layers = upright ? new int[] {0x11, 0x77, 0x11, 0xFF} : new int[] {0xF171, 0xF171};
-      build(scout);
-      turns.put(0, 0);
-      places.put(0, List.of(0, 0));
-    }
-    void build(CubeCarton x) { for (int z = 0; z < layers.length; z++) x.layer(z, layers[z]); }
-
-    int beside(int square, int direction) { return scout.across(square, direction - turns.get(square) & 3, 0); }
-    int step(int square, int direction) {
-      int side = direction - turns.get(square) & 3;
-      int other = scout.across(square, side, 0), back = scout.across(square, side, 1);
-      turns.put(other, direction + 2 - back & 3);
-      int[] dx = {1, 0, -1, 0}, dy = {0, 1, 0, -1};
-      places.put(other, List.of(places.get(square).get(0) + dx[direction], places.get(square).get(1) + dy[direction]));
-      left.add(4 * square + side);
-      left.add(4 * other + back);
-      return other;
-    }
-    /** One belt along the direction, from its end the other belt, far steps onward and the rest back. */
-    void lay(int direction, int far) {
-      int lateral = direction % 2 == 0 ? 1 : 0;
-      List<Integer> first = new ArrayList<>(List.of(0)), second = new ArrayList<>();
-      for (int i = 0; i < 19; i++) first.add(step(first.get(i), direction));
-      int start = step(first.get(19), lateral);
-      second.add(start);
-      for (int i = 0, at = start; i < far; i++) second.add(at = step(at, direction));
-      for (int i = 0, at = start; i < 19 - far; i++) second.add(at = step(at, direction + 2 & 3));
-      for (int square : first) if (!turns.containsKey(beside(square, lateral + 2))) step(square, lateral + 2);
-      for (int square : second) if (!turns.containsKey(beside(square, lateral))) step(square, lateral);
-    }
-    CubeCarton cut() {
-      CubeCarton x = new CubeCarton();
-      build(x);
-      Set<Integer> done = new HashSet<>(left);
-      for (int i = 0; i < 58; i++) for (int k = 0; k < 4; k++) {
-        if (!done.add(4 * i + k)) continue;
-        done.add(4 * scout.across(i, k, 0) + scout.across(i, k, 1));
-        x.cut(i, k, 1);
-      }
-      return x;
-    }
-  }
-
-  private static void openBeyondReach() {
-    for (int direction = 0; direction < 4; direction++) {
-      int sign = direction < 2 ? 1 : -1;
-      Strip within = new Strip(direction % 2 == 1);
-      within.lay(direction, 11);
-      CubeCarton x = within.cut();
-      due(13, "skin()", x.skin(), 58);
-      due(13, "cuts()", x.cuts(), 59);
-      due(13, "open() up to 30 in direction " + direction, x.open(), 57);
-      int most = 0;
-      for (int i = 0; i < 58; i++) most = Math.max(most, sign * x.told(i, direction % 2));
-      due(13, "the farthest in direction " + direction, most, 30);
-      due(13, "closed()", x.closed(), 1);
-      // The body is its own mirror's, and has no other symmetry.
-      due(26, "wraps() of 58", x.wraps(), 2);
-      for (int square = 0; square < 58; square++) {
-        if (!within.places.get(square).equals(List.of(x.told(0, 0), x.told(0, 1)))) continue;
-        due(27, "way(0, 0) of 58", x.way(0, 0), square);
-        due(27, "way(0, 1) of 58", x.way(0, 1), within.turns.get(square));
-      }
-      due(27, "way(0, 2) of 58", x.way(0, 2), 0);
-      due(27, "way(1, 2) of 58", x.way(1, 2), 1);
-      Strip beyond = new Strip(direction % 2 == 1);
-      beyond.lay(direction, 12);
-      CubeCarton y = beyond.cut();
-      refused(13, y, "open() up to 31 in direction " + direction, CubeCarton::open, BAD);
-      int side = 0;
-      while (side < 3 && y.across(57, side, 3) == 0) side++;
-      y.cut(57, side, 0);
-      refused(13, y, "open() with a ring, beyond 30", CubeCarton::open, -22);
-    }
-  }
-
   private static void spot() {
     CubeCarton x = new CubeCarton();
     due(14, "spot(30, 30, 1)", x.spot(30, 30, 1), 0);
@@ -759,9 +654,6 @@ public final class PromiseTests {
     due(18, "told(0, 1)", x.told(0, 1), -20);
     due(18, "told(0, 2)", x.told(0, 2), 0);
   }
-
-  private static final int[][] RING = {{0, 0, 0, 0}, {0, 0, 1, 0}, {1, 0, 1, 0}, {0, 1, 0, 1}};
-  private static final int[][] ROLL = {{-4, 0, 0, 1}, {-3, 0, 0, 1}, {-2, 0, 0, 1}, {-1, 0, 0, 1}};
 
   private static void fold() {
     due(19, "fold() without spots", new CubeCarton().fold(), 1);
