@@ -684,10 +684,18 @@ public final class BodyBoundaryTests extends Checks {
   private static final int[] SIXTY_TWO = {0xF99D, 1, 1, 3};
   /** What is to be cut so that one CUBE's skin becomes a cross. */
   private static final int[][] CROSS_CUTS = {{0, 2}, {1, 1}, {1, 3}, {2, 0}, {2, 2}, {3, 0}, {3, 2}};
-  /** What is to be cut so that of a box of 3, 2, 1 two SQUARES come to one place. */
-  private static final int[][] OVERLAP_CUTS = {
-    {0, 1}, {0, 2}, {1, 3}, {2, 0}, {2, 1}, {3, 3}, {4, 0}, {4, 2}, {5, 1}, {6, 3}, {7, 1}, {7, 3},
-    {8, 2}, {9, 1}, {10, 3}, {11, 1}, {12, 0}, {12, 2}, {15, 0}, {15, 1}, {17, 0}, {18, 0}, {18, 3},
+  /** What is to be cut so that of a box of 3, 2, 1 two SQUARES come to one place: the first, the last, or others. */
+  private static final int[][] FIRST_OVERLAPS = {
+    {0, 0}, {0, 1}, {0, 2}, {1, 2}, {1, 3}, {2, 1}, {3, 3}, {4, 3}, {5, 1}, {6, 0}, {7, 0}, {7, 3}, {8, 0}, {10, 3},
+    {12, 0}, {12, 2}, {14, 0}, {15, 0}, {15, 2}, {16, 0}, {18, 0}, {18, 3}, {19, 2},
+  };
+  private static final int[][] LAST_OVERLAPS = {
+    {0, 1}, {0, 2}, {1, 2}, {4, 0}, {4, 2}, {5, 1}, {6, 0}, {7, 0}, {7, 1}, {7, 3}, {8, 0}, {8, 2}, {11, 0}, {11, 1},
+    {11, 3}, {12, 1}, {13, 0}, {14, 0}, {15, 2}, {16, 0}, {18, 3}, {19, 0}, {19, 2},
+  };
+  private static final int[][] OTHERS_OVERLAP = {
+    {0, 1}, {0, 2}, {1, 3}, {2, 0}, {2, 1}, {3, 3}, {4, 0}, {4, 2}, {5, 1}, {6, 3}, {7, 1}, {7, 3}, {8, 2}, {9, 1},
+    {10, 3}, {11, 1}, {12, 0}, {12, 2}, {15, 0}, {15, 1}, {17, 0}, {18, 0}, {18, 3},
   };
 
   private static Run cutAll(Run x, int[][] edges) {
@@ -696,7 +704,7 @@ public final class BodyBoundaryTests extends Checks {
   }
 
   private static Run crossToBe() { return cutAll(body(1), CROSS_CUTS); }
-  private static Run overlapToBe() { return cutAll(new Run().with("box", 3, 2, 1), OVERLAP_CUTS); }
+  private static Run overlapToBe(int[][] cuts) { return cutAll(new Run().with("box", 3, 2, 1), cuts); }
 
   /** Two belts of 20 SQUARES, 58 in all, laid as one long strip with so many steps of the second belt onward. */
   private static Net belts(int direction, int far) {
@@ -754,20 +762,29 @@ public final class BodyBoundaryTests extends Checks {
     refused(apart, -21, "open");
   }
 
+  static void promise13WhatHungTogetherAsItWasOpenedMayNotAnyMore() {
+    Net net = new Net(SIXTY);
+    net.layAll();
+    for (int square : new int[] {0, 30, 59}) for (int k = 0; k < 4; k++) {
+      Run x = net.cut().with("open");
+      if (x.call("cut", square, k, 1) == 0) refused(x, -21, "open");
+    }
+  }
+
   static void promise13SeveralRowsToTwoPlacesIs22() {
     refused(body(1), -22, "open");
     for (int[] e : CROSS_CUTS) refused(crossToBe().with("cut", e[0], e[1], 0), -22, "open");
   }
 
   static void promise13TwoOnOnePlaceIs23() {
-    refused(overlapToBe(), -23, "open");
+    for (int[][] cuts : new int[][][] {FIRST_OVERLAPS, LAST_OVERLAPS, OTHERS_OVERLAP}) refused(overlapToBe(cuts), -23, "open");
   }
 
   static void promise13TheFirstReasonIsTold() {
     // SQUARE 4 is cut off, and about a corner elsewhere there is a ring.
     refused(crossToBe().with("cut", 0, 1, 1).with("cut", 0, 2, 0), -21, "open");
-    refused(overlapToBe().with("cut", 0, 0, 1), -21, "open");
-    refused(overlapToBe().with("cut", 0, 1, 0), -22, "open");
+    refused(overlapToBe(OTHERS_OVERLAP).with("cut", 0, 0, 1), -21, "open");
+    refused(overlapToBe(OTHERS_OVERLAP).with("cut", 0, 1, 0), -22, "open");
   }
 
   static void promise13SpotsUpTo30AreLaid() {
@@ -794,7 +811,7 @@ public final class BodyBoundaryTests extends Checks {
     refused(belts(0, 12).cut().with("cut", end[0], end[1], 1), -21, "open");
     refused(belts(0, 12).cut().with("cut", end[0], end[1] + 1 & 3, 0), -22, "open");
     Net net = belts(0, 12);
-    due("one lies on another", net.layOneOnAnother(), true);
+    due("one lies on another", net.layAnotherOn(3), true);
     due("the farthest", net.farthest(0, 1), 31);
     refused(net.cut(), -23, "open");
     refused(body(0x05), NO, "open");
@@ -805,6 +822,6 @@ public final class BodyBoundaryTests extends Checks {
     for (int i = 0; i < 60; i++) full.call("spot", i % 10 + 20, i / 10, 1);
     done(full, 5, "open");
     due("the SHEET", State.sheet(full), List.of(
-      List.of(0, -1, NO, 1), List.of(0, 0, 1, 1), List.of(1, 0, 1, NO), List.of(2, 0, 1, NO), List.of(3, 0, NO, NO), List.of(0, 1, NO, NO)));
+      List.of(0, -1, 1, NO, 1), List.of(0, 0, 3, 1, 1), List.of(1, 0, 2, 1, NO), List.of(2, 0, 2, 1, NO), List.of(3, 0, 1, NO, NO), List.of(0, 1, 1, NO, NO)));
   }
 }

@@ -1,4 +1,5 @@
 import java.util.ArrayList;
+import java.util.Arrays;
 import java.util.List;
 
 /** The boundary cases that the document names for sheets (promises 14 to 29): a test for each sentence. */
@@ -13,9 +14,10 @@ public final class SheetBoundaryTests extends Checks {
 
   private static Run sheet(int[]... creases) { return draw(new Run(), creases); }
 
+  /** Rows of x, y, how many creases, what is to the right, and what above. */
   private static void dueSheet(Run x, int[]... rows) {
     List<List<Integer>> want = new ArrayList<>();
-    for (int[] row : rows) want.add(List.of(row[0], row[1], row[2], row[3]));
+    for (int[] row : rows) want.add(List.of(row[0], row[1], row[2], row[3], row[4]));
     due("the SHEET behind " + x, State.sheet(x), want);
   }
 
@@ -40,7 +42,7 @@ public final class SheetBoundaryTests extends Checks {
     for (int x = -30; x <= 30; x += 30) for (int y = -30; y <= 30; y += 30) {
       Run run = new Run();
       done(run, 0, "spot", x, y, 1);
-      dueSheet(run, new int[] {x, y, NO, NO});
+      dueSheet(run, new int[] {x, y, 0, NO, NO});
       done(run, 1, "spot", x, y, 0);
       due(run, 0, "count", 2);
     }
@@ -103,7 +105,7 @@ public final class SheetBoundaryTests extends Checks {
     Run x = sheet(STAR);
     draw(x, new int[] {1, 0, 0, 9});
     done(x, 1, "spot", 0, 0, 0);
-    dueSheet(x, new int[][] {{0, -1, NO, NO}, {-1, 0, NO, NO}, {1, 0, 9, NO}, {2, 0, NO, NO}, {0, 1, NO, NO}});
+    dueSheet(x, new int[][] {{0, -1, 0, NO, NO}, {-1, 0, 0, NO, NO}, {1, 0, 1, 9, NO}, {2, 0, 1, NO, NO}, {0, 1, 0, NO, NO}});
     due(x, 1, "count", 3);
   }
 
@@ -111,7 +113,36 @@ public final class SheetBoundaryTests extends Checks {
     Run x = sheet(STAR).with("spot", 0, 0, 0);
     done(x, 0, "spot", 0, 0, 1);
     due(x, 0, "count", 3);
-    dueSheet(x, new int[][] {{0, -1, NO, 5}, {-1, 0, 5, NO}, {0, 0, 5, 5}, {1, 0, NO, NO}, {0, 1, NO, NO}});
+    dueSheet(x, new int[][] {{0, -1, 0, NO, 5}, {-1, 0, 0, 5, NO}, {0, 0, 0, 5, 5}, {1, 0, 0, NO, NO}, {0, 1, 0, NO, NO}});
+  }
+
+  static void promise14ASpotComesWithoutCreasesWhateverItsNumber() {
+    int[][] places = {{-9, -9}, {-9, -1}, {9, -1}, {-9, 0}, {9, 0}, {-9, 1}, {9, 1}, {9, 9}};
+    for (int[] p : places) {
+      // One that goes leaves room at the end, and one that comes moves those behind it.
+      Run x = sheet(STAR).with("spot", -30, -30, 1).with("spot", -30, -30, 0);
+      done(x, 0, "spot", p[0], p[1], 1);
+      for (int i = 0; i < 6; i++) {
+        boolean isNew = x.call("told", i, 0) == p[0] && x.call("told", i, 1) == p[1];
+        boolean isMiddle = x.call("told", i, 0) == 0 && x.call("told", i, 1) == 0;
+        due(x, isNew ? 0 : isMiddle ? 4 : 1, "told", i, 2);
+      }
+    }
+  }
+
+  static void promise14CreasesOfOthersAreLeftAsASpotGoes() {
+    int[][] square = {{0, 0, 0, 0}, {0, 0, 1, 1}, {1, 0, 1, 9}, {0, 1, 0, 1}};
+    int[][] left = {
+      {1, 0, 1, NO, 9, 0, 1, 1, 1, NO, 1, 1, 2, NO, NO}, {0, 0, 1, NO, 1, 0, 1, 2, 1, NO, 1, 1, 1, NO, NO},
+      {0, 0, 1, 0, NO, 1, 0, 2, NO, 9, 1, 1, 1, NO, NO}, {0, 0, 2, 0, 1, 1, 0, 1, NO, NO, 0, 1, 1, NO, NO},
+    };
+    for (int i = 0; i < 4; i++) {
+      Run x = sheet(square);
+      done(x, 1, "spot", i % 2, i / 2, 0);
+      int[][] rows = new int[3][];
+      for (int k = 0; k < 3; k++) rows[k] = Arrays.copyOfRange(left[i], 5 * k, 5 * k + 5);
+      dueSheet(x, rows);
+    }
   }
 
   static void promise14ASpotThatIsThereKeepsItsCreases() {
@@ -230,16 +261,16 @@ public final class SheetBoundaryTests extends Checks {
     for (int[] row : rows) for (int how = 0; how <= 1; how++) {
       Run x = new Run().with("spot", row[0], row[1], 1);
       done(x, 0, "turn", how);
-      dueSheet(x, new int[] {row[2 + 2 * how], row[3 + 2 * how], NO, NO});
+      dueSheet(x, new int[] {row[2 + 2 * how], row[3 + 2 * how], 0, NO, NO});
     }
   }
 
   static void promise16CreasesTurnWithTheirSpots() {
     Run quarter = sheet(STAR), over = sheet(STAR);
     done(quarter, 0, "turn", 0);
-    dueSheet(quarter, new int[][] {{0, -1, NO, 9}, {-1, 0, 1, NO}, {0, 0, 1, 0}, {1, 0, NO, NO}, {0, 1, NO, NO}});
+    dueSheet(quarter, new int[][] {{0, -1, 1, NO, 9}, {-1, 0, 1, 1, NO}, {0, 0, 4, 1, 0}, {1, 0, 1, NO, NO}, {0, 1, 1, NO, NO}});
     done(over, 0, "turn", 1);
-    dueSheet(over, new int[][] {{0, -1, NO, 1}, {-1, 0, 0, NO}, {0, 0, 9, 1}, {1, 0, NO, NO}, {0, 1, NO, NO}});
+    dueSheet(over, new int[][] {{0, -1, 1, NO, 1}, {-1, 0, 1, 0, NO}, {0, 0, 4, 9, 1}, {1, 0, 1, NO, NO}, {0, 1, 1, NO, NO}});
   }
 
   static void promise16SixtySpotsCanBeTurned() {
@@ -285,7 +316,7 @@ public final class SheetBoundaryTests extends Checks {
 
   static void promise17CreasesDoNotComeBackWithTheSpots() {
     Run x = sheet(STAR).with("clear").with("spot", 0, 0, 1).with("spot", 1, 0, 1);
-    dueSheet(x, new int[][] {{0, 0, 5, NO}, {1, 0, NO, NO}});
+    dueSheet(x, new int[][] {{0, 0, 0, 5, NO}, {1, 0, 0, NO, NO}});
   }
 
   static void promise17BodyCutsAndShelvesStay() {
@@ -355,11 +386,31 @@ public final class SheetBoundaryTests extends Checks {
     asked(block(60), 1, "fold");
   }
 
+  static void promise19WhatHungTogetherAsItWasFoldedMayNotAnyMore() {
+    for (int x : new int[] {-30, 0, 28}) asked(row(60, 0).with("fold").with("crease", x, 0, 0, 5), 1, "fold");
+    for (int direction = 0; direction <= 3; direction++) asked(sheet(STAR).with("fold").with("crease", 0, 0, direction, 5), 1, "fold");
+  }
+
   static void promise19TwoWaysToLieAre2() {
     asked(sheet(RING), 2, "fold");
     asked(sheet(RING).with("crease", 0, 0, 0, 9), 2, "fold");
     asked(sheet(RING).with("crease", 0, 0, 0, 1), 0, "fold");
     asked(sheet(RING).with("crease", 0, 1, 0, 5), 0, "fold");
+  }
+
+  static void promise19TwoWaysToLieThatDifferAlongOneAxisAre2() {
+    // Two rows that hang together at both ends. One is four steps long, the other two, at its height.
+    int[][] shorter = {{0, 1, 1, 0}, {0, 1, 0, 1}, {1, 1, 0, 9}, {2, 1, 0, 9}, {3, 1, 0, 1}, {4, 1, 1, 0}};
+    int[][] level = {{0, 2, 0, 0}, {1, 2, 0, 0}, {2, 2, 0, 0}, {3, 2, 0, 0}};
+    Run along = draw(sheet(shorter), level);
+    for (int turns = 0; turns < 4; turns++) asked(along.with("turn", 0), 2, "fold");
+    asked(along.with("crease", 4, 1, 1, 5), 0, "fold");
+    // Both are as long, but one goes down where the other goes up.
+    int[][] apart = {{0, 0, 1, 0}, {0, 0, 0, 1}, {1, 0, 0, 9}, {2, 0, 1, 0}, {0, 1, 0, 9}, {1, 1, 0, 1}};
+    asked(sheet(apart), 2, "fold");
+    asked(sheet(apart).with("crease", 2, 0, 1, 5), 0, "fold");
+    int[][] together = {{0, 0, 1, 0}, {0, 0, 0, 1}, {1, 0, 0, 9}, {2, 0, 1, 0}, {0, 1, 0, 1}, {1, 1, 0, 9}};
+    asked(sheet(together), 0, "fold");
   }
 
   static void promise19TwoWithOneMiddleAre3() {
@@ -418,6 +469,11 @@ public final class SheetBoundaryTests extends Checks {
     duePose(sheet(CROSS), 0, 0, 0, 0, 4, 0);
   }
 
+  static void promise20EachSpotOfACrossIsTold() {
+    int[][] poses = {{0, 0, 0, 4, 0}, {999, 0, 999, 1, 2}, {0, 1, 999, 2, 0}, {1, 0, 999, 0, 3}, {0, 999, 999, 3, 1}, {0, 0, 998, 5, 0}};
+    for (int spot = 0; spot <= 5; spot++) duePose(sheet(CROSS), spot, poses[spot]);
+  }
+
   static void promise20NumbersBelow0AreTold1000More() {
     duePose(sheet(new int[] {0, 0, 0, 1}), 1, 1, 0, 999, 0, 5);
     duePose(sheet(new int[] {0, 0, 0, 9}), 1, 1, 0, 1, 1, 4);
@@ -454,6 +510,26 @@ public final class SheetBoundaryTests extends Checks {
   static void promise21SixSpotsAboutACubeAreAndFiveAreNot() {
     asked(sheet(CROSS), 1, "closed");
     for (int[] spot : new int[][] {{0, 0}, {3, 0}, {1, 1}, {1, -1}}) asked(sheet(CROSS).with("spot", spot[0], spot[1], 0), 0, "closed");
+  }
+
+  /** A box of so many cubes, its four walls side by side, with caps at the first and at the last spot of the left one. */
+  private static Run tower(int cubes) {
+    Run x = new Run();
+    for (int y = 0; y < cubes; y++) for (int i = 0; i < 4; i++) x.call("spot", i, y, 1);
+    for (int y = 0; y < cubes; y++) for (int i = 0; i < 3; i++) x.call("crease", i, y, 0, 1);
+    for (int y = 1; y < cubes; y++) x.call("crease", 0, y, 3, 0);
+    return draw(x, new int[] {0, 0, 3, 1}, new int[] {0, cubes - 1, 1, 1});
+  }
+
+  static void promise21OneOpenEndIsEnoughThatItIsNot() {
+    for (int cubes : new int[] {1, 4, 14}) {
+      asked(tower(cubes), 1, "closed");
+      asked(tower(cubes).with("spot", 0, -1, 0), 0, "closed");
+      asked(tower(cubes).with("spot", 0, cubes, 0), 0, "closed");
+      asked(tower(cubes).with("crease", 0, -1, 1, 9), 0, "closed");
+      asked(tower(cubes).with("crease", 0, cubes, 3, 0), 0, "closed");
+    }
+    due(tower(14), 58, "count", 2);
   }
 
   static void promise21SidesWithNoOtherAreNot() {
@@ -688,6 +764,9 @@ public final class SheetBoundaryTests extends Checks {
 
   static void promise26TwoOnOneSquareHaveNoWays() {
     asked(draw(sheet(ROLL), new int[] {0, 0, 0, 1}).with("box", 1, 1, 1), 0, "wraps");
+    // The first and the last of five in a row alone lie on one, with a sixth beside.
+    for (int x = -4; x <= 0; x++) for (int direction = 1; direction <= 3; direction += 2)
+      asked(draw(sheet(ROLL), new int[] {x, 0, direction, 1}).with("box", 1, 1, 1), 0, "wraps");
   }
 
   static void promise26QuartersAndCutsAreNotLookedAt() {
@@ -758,14 +837,29 @@ public final class SheetBoundaryTests extends Checks {
   static void promise27OfSixtySquaresTheyAreTold() {
     Net net = sixty();
     Run x = net.cut().with("open");
-    int square = 0;
-    List<Integer> first = List.of(x.call("told", 0, 0), x.call("told", 0, 1));
-    while (square < 59 && !net.place(square).equals(first)) square++;
-    asked(x, square, "way", 0, 0);
-    asked(x, net.turn(square), "way", 0, 1);
-    asked(x, 0, "way", 0, 2);
-    asked(x, 1, "way", 1, 2);
-    asked(x, NONE, "way", 2, 0);
+    for (int quarters = 0; quarters < 4; quarters++) {
+      int square = squareUnder(net, x, quarters);
+      asked(x, square, "way", 0, 0);
+      asked(x, net.turn(square) + quarters & 3, "way", 0, 1);
+      asked(x, 0, "way", 0, 2);
+      asked(x, 1, "way", 1, 2);
+      asked(x, NONE, "way", 2, 0);
+      x.call("turn", 0);
+    }
+  }
+
+  /** The SQUARE that came to SPOT 0 as THE SKIN was opened, so many quarter turns ago. */
+  private static int squareUnder(Net net, Run x, int quarters) {
+    int toldX = x.call("told", 0, 0), toldY = x.call("told", 0, 1);
+    for (int square = 0; square < net.squares; square++) {
+      int px = net.place(square).get(0), py = net.place(square).get(1);
+      for (int i = 0, was = px; i < quarters; i++, was = px) {
+        px = -py;
+        py = was;
+      }
+      if (px == toldX && py == toldY) return square;
+    }
+    throw new IllegalStateException("no SQUARE came to SPOT 0");
   }
 
   // ---- promise 28: undo

@@ -9,7 +9,11 @@ abstract class Checks {
   static final int NONE = -1, BAD = -3, NO = -4, FULL = -5, NOTHING = -11, INDEX = -13;
   static final int LEAST = Integer.MIN_VALUE, GREATEST = Integer.MAX_VALUE;
 
+  // So many are told of one test; the rest is counted alone.
+  private static final int MOST_TOLD = 5;
+
   private static int wrong = 0;
+  private static int wrongOfRunning = 0;
   private static String running = "";
 
   /** Runs every method whose name begins with "promise": each is a test of its own. */
@@ -21,6 +25,7 @@ abstract class Checks {
       if (!m.getName().startsWith("promise")) continue;
       many++;
       running = m.getName();
+      wrongOfRunning = 0;
       try {
         m.invoke(null);
       } catch (InvocationTargetException e) {
@@ -39,6 +44,7 @@ abstract class Checks {
   }
 
   static void due(int promise, String call, Object got, Object want) {
+    if (!running.equals("promise " + promise)) wrongOfRunning = 0;
     running = "promise " + promise;
     due(call, got, want);
   }
@@ -46,7 +52,7 @@ abstract class Checks {
   static void due(String call, Object got, Object want) {
     if (got.equals(want)) return;
     wrong++;
-    System.out.println(running + ": " + call + " answered " + got + ", due is " + want);
+    if (++wrongOfRunning <= MOST_TOLD) System.out.println(running + ": " + call + " answered " + got + ", due is " + want);
   }
 
   /** Makes the call and goes on from there. */
@@ -60,9 +66,10 @@ abstract class Checks {
     for (int i = 0; i < Math.min(got.size(), want.size()); i++) due("the state behind " + x, got.get(i), want.get(i));
   }
 
-  /** A call that is refused, or asks: its answer is due, and it leaves all as it was. */
+  /** A call that is refused, or asks: its answer is due, once more too, and it leaves all as it was. */
   static void asked(Run x, int want, String name, int... a) {
     Run after = x.twin();
+    due(after, want, name, a);
     due(after, want, name, a);
     dueRows(after, State.now(after), State.now(x));
     dueRows(after, State.kept(after), State.kept(x));

@@ -110,15 +110,14 @@ final class Net {
     throw new IllegalStateException("no square hangs by one edge");
   }
 
-  /** Hangs a square that hangs by one edge onto another neighbour, so that it comes to lie on some third. */
-  boolean layOneOnAnother() {
+  /** Hangs some square onto another neighbour, so that it comes to lie on this one. */
+  boolean layAnotherOn(int taken) {
     for (int square = 1; square < squares; square++) {
-      int only = onlySideLeft(square);
+      int only = square == taken ? -1 : onlySideLeft(square);
       for (int k = 0; only >= 0 && k < 4; k++) {
         int from = leads[square][k];
         int direction = backs[square][k] + turns.get(from) & 3;
-        List<Integer> place = placeBeside(from, direction);
-        if (k == only || !places.containsValue(place) || place.equals(places.get(square))) continue;
+        if (k == only || !placeBeside(from, direction).equals(places.get(taken))) continue;
         sidesLeft.remove(4 * square + only);
         sidesLeft.remove(4 * leads[square][only] + backs[square][only]);
         step(from, direction);

@@ -43,7 +43,7 @@ final class State {
     return row;
   }
 
-  /** The SPOTS, and behind each what is to the right of it and above it, as crease() tells it. */
+  /** The SPOTS: x, y, how many CREASES, and what is to the right and above, as crease() tells it. */
   static List<List<Integer>> sheet(Run x) {
     Run twin = x.twin();
     List<List<Integer>> spots = spots(twin, twin.call("count", 2));
@@ -71,7 +71,7 @@ final class State {
 
   private static List<List<Integer>> spots(Run x, int many) {
     List<List<Integer>> spots = new ArrayList<>();
-    for (int i = 0; i < many; i++) spots.add(new ArrayList<>(List.of(x.call("told", i, 0), x.call("told", i, 1))));
+    for (int i = 0; i < many; i++) spots.add(new ArrayList<>(List.of(x.call("told", i, 0), x.call("told", i, 1), x.call("told", i, 2))));
     return spots;
   }
 }
