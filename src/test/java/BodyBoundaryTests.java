@@ -3,7 +3,7 @@ import java.util.List;
 /** The boundary cases that the document names for bodies (promises 1 to 13): a test for each sentence. */
 public final class BodyBoundaryTests extends Checks {
   public static void main(String[] args) {
-    runTests(BodyBoundaryTests.class);
+    runTests(BodyBoundaryTests.class, "promise");
   }
 
   // ---- promise 1: a new object

@@ -2,76 +2,120 @@ import java.lang.reflect.Constructor;
 import java.lang.reflect.Field;
 import java.lang.reflect.Method;
 import java.lang.reflect.Modifier;
+import java.util.ArrayList;
 import java.util.Arrays;
+import java.util.LinkedHashMap;
+import java.util.List;
+import java.util.Map;
 import java.util.Set;
+import java.util.TreeMap;
 import java.util.TreeSet;
+import java.util.regex.Matcher;
+import java.util.regex.Pattern;
 
-/** The public face is the document's and nothing more, and the classes inside keep to rules 1, 2 and 5. */
-public final class FaceTests {
-  private static final String[] METHODS = {
-    "layer/2", "lose/1", "cube/3", "copy/5", "box/3", "well/0", "skin/0", "square/2", "across/3", "cut/3", "cuts/0",
-    "open/0", "spot/3", "crease/4", "turn/1", "clear/0", "told/2", "fold/0", "where/2", "closed/0", "form/1", "same/0",
-    "shelve/1", "alike/1", "wraps/0", "way/2", "undo/0", "count/1",
-  };
-  private static final String[] CONSTANTS = {"NONE", "BAD", "NO", "FULL", "NOTHING", "INDEX"};
-  private static int wrong = 0;
-
+/** The public face is what the code block of the document has, and nothing more. */
+public final class FaceTests extends Checks {
   public static void main(String[] args) {
-    due("the class is public", Modifier.isPublic(CubeCarton.class.getModifiers()));
-    due("the class is final", Modifier.isFinal(CubeCarton.class.getModifiers()));
-    constructors();
-    methods();
-    fields(CubeCarton.class);
-    for (Class<?> inside : CubeCarton.class.getDeclaredClasses()) inside(inside);
-    System.out.println(wrong == 0 ? "the face is the document's" : wrong + " things are not as due");
-    if (wrong != 0) System.exit(1);
+    runTests(FaceTests.class, "face");
   }
 
-  private static void due(String what, boolean holds) {
-    if (!holds) {
-      wrong++;
-      System.out.println("not so: " + what);
+  private static List<String> documentsBlock() {
+    List<String> block = new ArrayList<>();
+    for (String line : Texts.blocks(Texts.DOCUMENT, "java").get(0)) if (!line.isBlank()) block.add(line.strip());
+    return block;
+  }
+
+  /** As the document writes them: int layer(int z, int bits); names of parameters are no part of the class. */
+  private static Set<String> documentsMethods() {
+    Set<String> methods = new TreeSet<>();
+    for (String line : documentsBlock()) {
+      Matcher m = Pattern.compile("public int (\\w+)\\((.*)\\);").matcher(line);
+      if (m.matches()) methods.add(m.group(1) + "(" + m.group(2).replaceAll("int \\w+", "int") + ")");
     }
+    return methods;
   }
 
-  private static void constructors() {
+  static void faceInTheSourceIsTheDocumentsLineByLine() {
+    List<String> source = new ArrayList<>();
+    for (String line : Texts.code(Texts.SOURCE)) {
+      if (line.startsWith("public ")) source.add(line.strip());
+      if (line.startsWith("    public ")) source.add(line.strip().replaceAll(" \\{$", ";"));
+    }
+    source.add("}");
+    due("the public lines of the source", source, documentsBlock());
+  }
+
+  static void faceIsThatOfAPublicFinalClassWithoutPackage() {
+    int marks = CubeCarton.class.getModifiers();
+    due("the class is public, final, and not abstract", List.of(Modifier.isPublic(marks), Modifier.isFinal(marks), Modifier.isAbstract(marks)), List.of(true, true, false));
+    due("its package", CubeCarton.class.getPackageName(), "");
+    due("what it extends", CubeCarton.class.getSuperclass(), Object.class);
+    due("what it implements", CubeCarton.class.getInterfaces().length, 0);
+  }
+
+  static void faceHasTheDocumentsConstantsWithTheirValues() throws IllegalAccessException {
+    Map<String, Integer> want = new TreeMap<>(), got = new TreeMap<>();
+    for (String line : documentsBlock()) {
+      if (!line.startsWith("public static final int ")) continue;
+      Matcher m = Pattern.compile("(\\w+) = (-?\\d+)").matcher(line);
+      while (m.find()) want.put(m.group(1), Integer.valueOf(m.group(2)));
+    }
+    for (Field f : CubeCarton.class.getFields()) {
+      int marks = f.getModifiers();
+      due(f + " is static, final and an int", Modifier.isStatic(marks) && Modifier.isFinal(marks) && f.getType() == int.class, true);
+      got.put(f.getName(), f.getInt(null));
+    }
+    due("the constants", got, want);
+    due("the constants, by hand", got, new TreeMap<>(Map.of("NONE", -1, "BAD", -3, "NO", -4, "FULL", -5, "NOTHING", -11, "INDEX", -13)));
+  }
+
+  static void faceHasOneConstructorThatTakesNothing() {
     Constructor<?>[] all = CubeCarton.class.getDeclaredConstructors();
-    due("one constructor", all.length == 1);
-    due("it is public and takes nothing", all.length == 1 && Modifier.isPublic(all[0].getModifiers()) && all[0].getParameterCount() == 0);
+    due("constructors", all.length, 1);
+    due("it is public", Modifier.isPublic(all[0].getModifiers()), true);
+    due("its parameters", all[0].getParameterCount(), 0);
+    due("what it says that it throws", all[0].getExceptionTypes().length, 0);
   }
 
-  private static void methods() {
-    Set<String> seen = new TreeSet<>();
-    Set<String> names = new TreeSet<>();
-    for (String row : METHODS) names.add(row.substring(0, row.indexOf('/')));
+  static void faceHasTheDocumentsMethodsAndNoOthers() {
+    Set<String> got = new TreeSet<>();
     for (Method m : CubeCarton.class.getDeclaredMethods()) {
-      if (Modifier.isPrivate(m.getModifiers()) || m.isSynthetic()) {
-        due("no private method is called " + m.getName(), !names.contains(m.getName()));
-        continue;
+      if (Modifier.isPrivate(m.getModifiers())) continue;
+      due(m + " is public, not static, and answers an int", Modifier.isPublic(m.getModifiers()) && !Modifier.isStatic(m.getModifiers()) && m.getReturnType() == int.class, true);
+      due("what " + m + " says that it throws", m.getExceptionTypes().length, 0);
+      List<String> types = new ArrayList<>();
+      for (Class<?> type : m.getParameterTypes()) types.add(type.toString());
+      got.add(m.getName() + "(" + String.join(", ", types) + ")");
+    }
+    due("the methods", got, documentsMethods());
+    due("how many methods", got.size(), 28);
+  }
+
+  static void faceShowsNothingElse() {
+    for (Field f : CubeCarton.class.getDeclaredFields()) {
+      boolean isConstant = Arrays.asList(CubeCarton.class.getFields()).contains(f);
+      due(f + " is private or one of the constants", isConstant || Modifier.isPrivate(f.getModifiers()), true);
+    }
+    for (Class<?> inside : CubeCarton.class.getDeclaredClasses()) due(inside + " is seen", Modifier.isPublic(inside.getModifiers()) || Modifier.isProtected(inside.getModifiers()), false);
+  }
+
+  /** "Ahead of the calls .. the interface says: ---- bodies." */
+  static void faceHasItsCallsUnderTheDocumentsHeadings() {
+    Map<String, List<String>> want = new LinkedHashMap<>(), got = new LinkedHashMap<>();
+    for (String line : Texts.prose(Texts.DOCUMENT)) {
+      Matcher m = Pattern.compile("Ahead of the calls (.*) the interface says: (---- .*)\\.").matcher(line);
+      if (m.matches()) want.put(m.group(2), List.of(m.group(1).replace("`", "").split(", ")));
+    }
+    List<String> calls = new ArrayList<>();
+    for (String line : Texts.lines(Texts.SOURCE)) {
+      if (line.startsWith("    // ---- ")) {
+        calls = new ArrayList<>();
+        got.put(line.strip().substring(3), calls);
       }
-      seen.add(m.getName() + "/" + m.getParameterCount());
-      due(m + " is public and not static", Modifier.isPublic(m.getModifiers()) && !Modifier.isStatic(m.getModifiers()));
-      due(m + " answers an int", m.getReturnType() == int.class);
-      for (Class<?> type : m.getParameterTypes()) due(m + " takes ints", type == int.class);
+      Matcher m = Pattern.compile("    public int (\\w+)\\(.*").matcher(line);
+      if (m.matches()) calls.add(m.group(1));
     }
-    due("the methods are " + seen, seen.equals(new TreeSet<>(Arrays.asList(METHODS))));
-  }
-
-  private static void fields(Class<?> type) {
-    Set<String> seen = new TreeSet<>();
-    for (Field f : type.getDeclaredFields()) {
-      if (Modifier.isStatic(f.getModifiers())) due(f + " is final", Modifier.isFinal(f.getModifiers()));
-      if (!Modifier.isPrivate(f.getModifiers())) seen.add(f.getName());
-    }
-    if (type == CubeCarton.class) due("the constants are " + seen, seen.equals(new TreeSet<>(Arrays.asList(CONSTANTS))));
-  }
-
-  private static void inside(Class<?> type) {
-    int marks = type.getModifiers();
-    due(type + " is static", Modifier.isStatic(marks));
-    due(type + " is private or package-visible", !Modifier.isPublic(marks) && !Modifier.isProtected(marks));
-    for (Method m : type.getDeclaredMethods())
-      for (String row : METHODS) due(m + " has a name of its own", !m.getName().equals(row.substring(0, row.indexOf('/'))));
-    fields(type);
+    due("headings in the document", want.size(), 2);
+    due("the calls under their headings", got, want);
   }
 }

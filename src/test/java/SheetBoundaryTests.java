@@ -5,7 +5,7 @@ import java.util.List;
 /** The boundary cases that the document names for sheets (promises 14 to 29): a test for each sentence. */
 public final class SheetBoundaryTests extends Checks {
   public static void main(String[] args) {
-    runTests(SheetBoundaryTests.class);
+    runTests(SheetBoundaryTests.class, "promise");
   }
 
   /** A spot in the midst of four, with a crease to each: level, sharp, hollow, sharp. */

@@ -16,13 +16,13 @@ abstract class Checks {
   private static int wrongOfRunning = 0;
   private static String running = "";
 
-  /** Runs every method whose name begins with "promise": each is a test of its own. */
-  static void runTests(Class<?> tests) {
+  /** Runs every method whose name begins so: each is a test of its own. */
+  static void runTests(Class<?> tests, String begin) {
     int many = 0;
     Method[] methods = tests.getDeclaredMethods();
     Arrays.sort(methods, Comparator.comparing(Method::getName));
     for (Method m : methods) {
-      if (!m.getName().startsWith("promise")) continue;
+      if (!m.getName().startsWith(begin)) continue;
       many++;
       running = m.getName();
       wrongOfRunning = 0;

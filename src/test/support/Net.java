@@ -65,16 +65,29 @@ final class Net {
   }
 
   /** Goes as far as it may and then back to the latest turning; whether all came to places of their own. */
-  boolean layAll() {
+  boolean layAll() { return layAll(List.of(0, 1, 2, 3)); }
+
+  private boolean layAll(List<Integer> directions) {
     Deque<int[]> todo = new ArrayDeque<>();
-    for (int d = 0; d < 4; d++) todo.push(new int[] {0, d});
+    for (int d : directions) todo.push(new int[] {0, d});
     while (!todo.isEmpty()) {
       int[] next = todo.pop();
       if (turns.containsKey(beside(next[0], next[1])) || !isFree(placeBeside(next[0], next[1]))) continue;
       int other = step(next[0], next[1]);
-      for (int d = 0; d < 4; d++) todo.push(new int[] {other, d});
+      for (int d : directions) todo.push(new int[] {other, d});
     }
     return turns.size() == squares;
+  }
+
+  /** A plan that lays all, the directions being gone through in the first order by which it can be done. */
+  static Net whole(int... layers) {
+    for (int i = 0; i < 256; i++) {
+      List<Integer> order = List.of(i & 3, i >> 2 & 3, i >> 4 & 3, i >> 6 & 3);
+      if (new HashSet<>(order).size() < 4) continue;
+      Net net = new Net(layers);
+      if (net.layAll(order)) return net;
+    }
+    throw new IllegalStateException("no plan lays all");
   }
 
   private boolean isFree(List<Integer> place) {

@@ -36,6 +36,8 @@ final class Run {
     }
   }
 
+  int calls() { return names.size(); }
+
   /** For rows of calls whose answers are not looked at. */
   Run with(String name, int... a) {
     call(name, a);
