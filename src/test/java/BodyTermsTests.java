@@ -1,3 +1,4 @@
+import java.lang.reflect.Method;
 import java.util.ArrayList;
 import java.util.Arrays;
 import java.util.HashMap;
@@ -6,8 +7,10 @@ import java.util.List;
 import java.util.Map;
 import java.util.Random;
 import java.util.Set;
+import java.util.TreeMap;
+import java.util.TreeSet;
 
-/** Terms 1 and 2 of the document, sentence by sentence, as far as a call's answer can show them. */
+/** What stands ahead of the Terms, and Terms 1 and 2, sentence by sentence, as far as a call's answer can show them. */
 public final class BodyTermsTests extends Checks {
   public static void main(String[] args) {
     runTests(BodyTermsTests.class, "term");
@@ -18,6 +21,42 @@ public final class BodyTermsTests extends Checks {
     {1}, {0x8000}, {3}, {0x13}, {3, 1}, {0x23, 0x20}, {0x33}, {0x757}, {0x17, 1, 0x11}, {-1, 0x4E40, 0x0440}, {0xF99F, 1, 1, 1}, {0xFF, 0xF0, 0x1F0},
   };
   private static final int[][] NOT_WELL = {{5}, {0x21, 0x23}, {0x777, 0x757, 0x777}, {1, -1, 1}, {0xA5A5, 0x5A5A, 0xA5A5, 0x5A5A}, {0, 0}};
+
+  // ---- ahead of 1: refusals
+
+  /**
+   * "A call that is refused answers one of BAD, NO, FULL, or a FINDING, of several the one that stands first with
+   * it, and changes nothing.": no call answers another one than those that stand with it in the document. (Which
+   * of them is first, the boundary tests ask.)
+   */
+  static void term0RefusalsAreThoseThatStandWithTheCall() {
+    Random random = new Random(9);
+    Map<String, Integer> takes = new TreeMap<>();
+    for (Method m : CubeCarton.class.getMethods()) if (m.getDeclaringClass() == CubeCarton.class) takes.put(m.getName(), m.getParameterCount());
+    due("calls in the document", Texts.documentsAnswers().keySet(), takes.keySet());
+    List<Run> benches = List.of(new Run(), bench(), eightKept(bench()), notWell(2), notWell(4), block(60), draw(bench(), RING));
+    Map<String, Set<Integer>> seen = new TreeMap<>();
+    for (Map.Entry<String, Integer> call : takes.entrySet()) for (Run bench : benches) for (int i = 0; i < (call.getValue() == 0 ? 1 : 12); i++) {
+      int[] a = new int[call.getValue()];
+      for (int k = 0; k < a.length; k++) a[k] = ODD[random.nextInt(random.nextInt(3) == 0 ? ODD.length : 4)];
+      Run x = bench.twin();
+      int answer = x.call(call.getKey(), a);
+      if (answer >= 0) continue;
+      seen.computeIfAbsent(call.getKey(), n -> new TreeSet<>()).add(answer);
+      due("the state behind " + x, State.now(x), State.now(bench));
+      due("what is kept behind " + x, State.kept(x), State.kept(bench));
+    }
+    for (Map.Entry<String, Set<Integer>> call : seen.entrySet()) {
+      Set<Integer> may = new TreeSet<>();
+      for (String name : Texts.documentsAnswers().get(call.getKey())) may.add(CONSTANTS.get(name));
+      if (call.getKey().equals("open")) may.addAll(Set.of(-21, -22, -23));
+      call.getValue().removeAll(may);
+      due("answers of " + call.getKey() + " that do not stand with it", call.getValue(), Set.of());
+    }
+    due("calls that were refused", seen.size(), 21);
+  }
+
+  private static final int[] ODD = {0, 1, 2, 3, 4, 5, 6, 9, 15, 16, 17, 30, 31, 61, -1, -2, -30, -31, LEAST, GREATEST};
 
   // ---- 1: bodies
 
@@ -333,7 +372,8 @@ public final class BodyTermsTests extends Checks {
     int squares = across.size() / 4;
     Set<Integer> in = new HashSet<>(Set.of(0)), left = new HashSet<>();
     List<Integer> row = new ArrayList<>(List.of(0));
-    while (in.size() < squares) {
+    // So many tries are plenty, if the SQUARES hang together at all.
+    for (int tries = 0; tries < 50000 && in.size() < squares; tries++) {
       int from = row.get(slip % 2 == 0 ? random.nextInt(row.size()) : Math.max(0, row.size() - 1 - random.nextInt(4)));
       int side = 4 * from + random.nextInt(4), to = across.get(side).get(0);
       if (random.nextInt(50) == 0) row.add(row.get(random.nextInt(row.size())));

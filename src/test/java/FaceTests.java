@@ -66,7 +66,7 @@ public final class FaceTests extends Checks {
       got.put(f.getName(), f.getInt(null));
     }
     due("the constants", got, want);
-    due("the constants, by hand", got, new TreeMap<>(Map.of("NONE", -1, "BAD", -3, "NO", -4, "FULL", -5, "NOTHING", -11, "INDEX", -13)));
+    due("the constants, by hand", got, new TreeMap<>(CONSTANTS));
   }
 
   static void faceHasOneConstructorThatTakesNothing() {

@@ -20,7 +20,6 @@ public final class ReadmeTests extends Checks {
   private static final Pattern MADE = Pattern.compile("\\s*CubeCarton (\\w+) = new CubeCarton\\(\\);");
   private static final Pattern CALL = Pattern.compile("\\s*(?:System\\.out\\.println\\()?(\\w+)\\.(\\w+)\\(([-\\d, ]*)\\)\\)?;\\s*// (-?\\d+|[A-Z]+)(:? .*|)");
   private static final Pattern FRAME = Pattern.compile("\\s*(public .*\\{|\\})");
-  private static final Map<String, Integer> CONSTANTS = Map.of("NONE", NONE, "BAD", BAD, "NO", NO, "FULL", FULL, "NOTHING", NOTHING, "INDEX", INDEX);
 
   public static void main(String[] args) {
     runTests(ReadmeTests.class, "readme");
@@ -104,27 +103,18 @@ public final class ReadmeTests extends Checks {
       else if (!line.startsWith("|")) inTable = false;
       if (!inTable || !line.startsWith("| `")) continue;
       String[] columns = line.split("\\|");
-      for (String name : found(columns[1], "`(\\w+)`")) refusals.put(name, found(columns[2], "`([A-Z]+)`"));
+      for (String name : Texts.found(columns[1], "`(\\w+)`")) refusals.put(name, Texts.found(columns[2], "`([A-Z]+)`"));
     }
     return refusals;
-  }
-
-  private static List<String> found(String text, String pattern) {
-    List<String> found = new ArrayList<>();
-    Matcher m = Pattern.compile(pattern).matcher(text);
-    while (m.find()) found.add(m.group(1));
-    return found;
   }
 
   static void readmeTellsTheRefusalsOfEveryCallInTheDocumentsOrder() {
     Map<String, List<String>> refusals = refusals();
     due("calls in the table", refusals.keySet(), face());
-    String name = "";
-    for (String line : Texts.prose(Texts.DOCUMENT)) {
-      Matcher head = Pattern.compile("## Promise \\d+: (\\w+)").matcher(line);
-      if (head.matches()) name = head.group(1);
-      else if (line.startsWith("## ")) name = "";
-      if (!name.isEmpty() && line.startsWith("`int ")) due("how " + name + " is refused", refusals.get(name), found(line, "\\b(BAD|NO|FULL|NOTHING|INDEX)\\b"));
+    for (Map.Entry<String, List<String>> call : Texts.documentsAnswers().entrySet()) {
+      List<String> want = new ArrayList<>(call.getValue());
+      want.remove("NONE");
+      due("how " + call.getKey() + " is refused", refusals.get(call.getKey()), want);
     }
   }
 
@@ -153,7 +143,7 @@ public final class ReadmeTests extends Checks {
   /** The class's own, the tests, and what they use. */
   static void readmeNamesFilesThatAreThereAndAllTests() throws IOException {
     String text = String.join("\n", Texts.lines(Texts.README));
-    for (String path : found(text, "((?:src|\\.ci|\\.\\./shared)/[\\w./]*\\w)")) due(path + " is there", Files.exists(Path.of(path)), true);
+    for (String path : Texts.found(text, "((?:src|\\.ci|\\.\\./shared)/[\\w./]*\\w)")) due(path + " is there", Files.exists(Path.of(path)), true);
     for (String folder : List.of("src/test/java", "src/test/support")) try (Stream<Path> files = Files.list(Path.of(folder))) {
       for (Path file : files.toList()) due(file + " is named", text.contains("`" + file.getFileName().toString().replace(".java", "") + "`"), true);
     }

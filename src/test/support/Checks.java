@@ -3,10 +3,12 @@ import java.lang.reflect.Method;
 import java.util.Arrays;
 import java.util.Comparator;
 import java.util.List;
+import java.util.Map;
 
 /** What tests by promise have in common: what is due, and whether a call has changed anything. */
 abstract class Checks {
   static final int NONE = -1, BAD = -3, NO = -4, FULL = -5, NOTHING = -11, INDEX = -13;
+  static final Map<String, Integer> CONSTANTS = Map.of("NONE", NONE, "BAD", BAD, "NO", NO, "FULL", FULL, "NOTHING", NOTHING, "INDEX", INDEX);
   static final int LEAST = Integer.MIN_VALUE, GREATEST = Integer.MAX_VALUE;
 
   // So many are told of one test; the rest is counted alone.

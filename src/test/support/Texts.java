@@ -4,6 +4,10 @@ import java.nio.file.Files;
 import java.nio.file.Path;
 import java.util.ArrayList;
 import java.util.List;
+import java.util.Map;
+import java.util.TreeMap;
+import java.util.regex.Matcher;
+import java.util.regex.Pattern;
 
 /** The files that tests look at as texts; tests are run from the project's folder. */
 final class Texts {
@@ -17,6 +21,24 @@ final class Texts {
     } catch (IOException e) {
       throw new UncheckedIOException(e);
     }
+  }
+
+  /** All that the pattern's brackets hold in a text. */
+  static List<String> found(String text, String pattern) {
+    List<String> found = new ArrayList<>();
+    Matcher m = Pattern.compile(pattern).matcher(text);
+    while (m.find()) found.add(m.group(1));
+    return found;
+  }
+
+  /** The answers that stand with each call in the document's promises, in their order. */
+  static Map<String, List<String>> documentsAnswers() {
+    Map<String, List<String>> answers = new TreeMap<>();
+    for (String line : prose(DOCUMENT)) {
+      Matcher call = Pattern.compile("`int (\\w+)\\(.*?\\)`: (.*)").matcher(line);
+      if (call.matches()) answers.put(call.group(1), found(call.group(2), "\\b(NONE|BAD|NO|FULL|NOTHING|INDEX)\\b"));
+    }
+    return answers;
   }
 
   /** The blocks of a language between rows of three backticks. */
