@@ -240,6 +240,8 @@ public final class BodyTermsTests extends Checks {
   }
 
   private static final int[] DX = {1, 0, -1, 0}, DY = {0, 1, 0, -1};
+  // The nearest come first: by then all have come to which any row leads.
+  private static final int MOST_COMINGS = 5000;
 
   /** Where SQUARES come to, by all rows of EDGES that are not cut: rows of place and TURN. */
   private static List<Set<List<Integer>>> comings(List<List<Integer>> across, int reach) {
@@ -249,9 +251,9 @@ public final class BodyTermsTests extends Checks {
     comings.get(0).add(List.of(0, 0, 0));
     int come = 1;
     boolean several = false;
-    // Rows that go round and round come to ever more places: two are enough, once all SQUARES have come.
-    while (!todo.isEmpty() && !(several && come == comings.size())) {
-      List<Integer> at = todo.remove(todo.size() - 1);
+    // Rows that go round and round come to ever more places: two are enough, once all SQUARES have come that can.
+    for (int i = 0; i < todo.size() && i < MOST_COMINGS && !(several && come == comings.size()); i++) {
+      List<Integer> at = todo.get(i);
       for (int k = 0; k < 4; k++) {
         List<Integer> there = across.get(4 * at.get(0) + k);
         if (there.get(3) == 1) continue;
